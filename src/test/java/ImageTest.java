@@ -1,0 +1,157 @@
+/** Promises 37 and 38: images of all that is told. */
+public final class ImageTest {
+    private static final Due DUE = new Due("ImageTest");
+
+    public static void main(String[] args) {
+        wrongImages();
+        allComesAgain();
+        newComesAgain();
+        imagesStay();
+        imagesAreApart();
+        tapeComesAgain();
+        DUE.finish();
+    }
+
+    private static void wrongImages() {
+        SectionHouse x = new SectionHouse();
+        for (int k : new int[] {-1, 3, Integer.MAX_VALUE, Integer.MIN_VALUE}) {
+            DUE.is("image(" + k + ")", x.image(k), false);
+            DUE.is("again(" + k + ")", x.again(k), false);
+        }
+        DUE.is("again(0) of none", x.again(0), false);
+        DUE.is("image(1)", x.image(1), true);
+        DUE.is("again(0) still", x.again(0), false);
+        DUE.is("again(2) still", x.again(2), false);
+        DUE.is("again(1)", x.again(1), true);
+        DUE.is("again(1) twice", x.again(1), true);
+    }
+
+    private static SectionHouse filled() {
+        SectionHouse x = Due.sections();
+        Due.law(x, "bar z;must w;");
+        Due.word(x, "mbd", 1);
+        x.person(0);
+        x.person(1);
+        x.person(1);
+        x.wed(1, 0);
+        x.tell(0, 1);
+        x.day(5);
+        x.parents(2, 0, 1);
+        x.tell(2, 2);
+        x.view(3);
+        Due.word(x, "fq", 1);
+        x.feed(1, 2, 3, 4, 5);
+        x.end(7);
+        return x;
+    }
+
+    /** Everything that can be asked without changing anything. */
+    private static String all(SectionHouse x) {
+        StringBuilder text = new StringBuilder();
+        for (int i = -1; i < 11; i++) {
+            text.append(x.count(i)).append(' ').append(x.fault(i)).append(' ').append(x.weds(i)).append(' ');
+            text.append(x.child(i, true)).append(x.child(i, false)).append(x.is(i)).append(x.comes(i));
+            text.append(x.halves(i)).append(x.half(i, 0)).append(x.leads(0, i)).append(x.leads(1, i));
+            text.append(x.about(0, i)).append(x.about(1, i)).append(x.letter(0, i)).append(x.quarrel(i));
+            text.append(x.wrong(i)).append(x.told(0, i)).append(x.told(1, i)).append(x.told(2, i));
+            for (int p = 0; p < 4; p++) {
+                text.append(x.tells(p, i)).append(x.may(p, i)).append(' ');
+            }
+            text.append(x.systems(i)).append(x.kinds(i)).append(x.kind(4, 0, i)).append('\n');
+        }
+        text.append(x.broken()).append(x.turnsOf()).append(x.brides(3)).append(x.wrongs());
+        return text.toString();
+    }
+
+    private static void change(SectionHouse x) {
+        x.end(0);
+        Due.system(x, Due.systemText(new int[] {1, 2, 0}, new int[] {1, 0, 2}));
+        Due.law(x, "must z;bar d;bar m;");
+        Due.word(x, "ss", 0);
+        x.person(0);
+        x.day(9);
+        x.parents(1, 0, -1);
+        x.wed(2, 3);
+        x.tell(1, 1);
+        x.view(-1);
+        x.feed(5, 4, 3, 2, 1);
+    }
+
+    private static void allComesAgain() {
+        SectionHouse x = filled();
+        String before = all(x);
+        DUE.is("image(0)", x.image(0), true);
+        DUE.is("an image changes nothing", all(x).equals(before), true);
+        change(x);
+        DUE.is("it changed", all(x).equals(before), false);
+        DUE.is("again(0)", x.again(0), true);
+        DUE.is("all is as it was", all(x).equals(before), true);
+        DUE.is("the tape, too", x.end(8), -1);
+        DUE.is("all of it", x.end(7), 7);
+        DUE.is("parents can be told anew", x.parents(1, 0, -1), true);
+        DUE.is("the next telling", x.tell(0, 0), 2);
+        DUE.is("its day", x.told(2, 2), 5);
+        DUE.is("the next wedding", x.wed(2, 0), 2);
+        DUE.is("the next person", x.person(1), 3);
+        DUE.is("which has no parents", x.tells(3, 1), -1);
+    }
+
+    private static void newComesAgain() {
+        SectionHouse x = new SectionHouse();
+        String empty = all(x);
+        x.image(2);
+        change(x);
+        change(x);
+        DUE.is("again(2)", x.again(2), true);
+        DUE.is("all is new", all(x).equals(empty), true);
+        DUE.is("the day, too", x.day(0), true);
+    }
+
+    private static void imagesStay() {
+        SectionHouse x = filled();
+        x.image(0);
+        String first = all(x);
+        change(x);
+        String second = all(x);
+        x.image(1);
+        x.again(0);
+        change(x);
+        change(x);
+        x.again(1);
+        DUE.is("the second one", all(x).equals(second), true);
+        x.again(0);
+        DUE.is("the first one", all(x).equals(first), true);
+        change(x);
+        x.again(0);
+        DUE.is("the first one twice", all(x).equals(first), true);
+    }
+
+    private static void imagesAreApart() {
+        SectionHouse x = filled();
+        x.image(0);
+        change(x);
+        x.image(0);
+        String later = all(x);
+        change(x);
+        x.again(0);
+        DUE.is("the later image stands", all(x).equals(later), true);
+        DUE.is("image 1 does not", x.again(1), false);
+    }
+
+    private static void tapeComesAgain() {
+        SectionHouse x = new SectionHouse();
+        Due.tape(x, "mbd");
+        x.image(0);
+        DUE.is("word", x.word(1), 0);
+        x.again(0);
+        DUE.is("no words", x.count(2), 0);
+        DUE.is("word again", x.word(0), 0);
+        DUE.is("its letters", x.about(0, 2), 3);
+        DUE.is("from a woman", x.about(0, 1), 0);
+        Due.tape(x, "zzz");
+        x.again(0);
+        x.word(1);
+        Due.system(x, Due.SECTIONS);
+        DUE.is("the old bytes", x.about(0, 3), 4);
+    }
+}
