@@ -1346,7 +1346,7 @@ public final class SectionHouse {
             }
         }
 
-        /** The k-th order of all: each place parts the orders that are left in as many like shares as it has choices. */
+        /** The k-th order of all: each place parts those that are left in as many shares as it has choices. */
         private int orderAt(int k, int all) {
             int row = 0;
             int taken = 0;
