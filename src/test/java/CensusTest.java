@@ -103,6 +103,14 @@ public final class CensusTest {
         DUE.is("a law at fault changes nothing", x.systems(4), some);
         x.again(0);
         DUE.is("systems(4) again", x.systems(4), 204);
+        // laws that differ in one thing alone
+        String[] laws = {"bar d;", "must d;", "must fzd;", "same f b;", "same f s;", "same b s;", "same ff s;", "bar fzd;"};
+        for (String law : laws) {
+            SectionHouse fresh = new SectionHouse();
+            Due.law(fresh, law);
+            Due.law(x, law);
+            DUE.is("systems(4) by " + law + " behind another", x.systems(4), fresh.systems(4));
+        }
     }
 
     /** Systems counted one by one through the text, by is(2) alone. */

@@ -128,7 +128,7 @@ public final class FaceTest {
             round(x, i);
         }
         long taken = bytes() - before;
-        DUE.is("six rounds took " + taken + " bytes", taken < 2000, true);
+        DUE.is("six rounds took " + taken + " bytes", taken < 20000, true);
         before = bytes();
         SectionHouse y = new SectionHouse();
         round(y, 1);

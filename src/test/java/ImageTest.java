@@ -9,6 +9,7 @@ public final class ImageTest {
         imagesStay();
         imagesAreApart();
         tapeComesAgain();
+        otherStoriesDoNotShow();
         DUE.finish();
     }
 
@@ -153,5 +154,60 @@ public final class ImageTest {
         x.word(1);
         Due.system(x, Due.SECTIONS);
         DUE.is("the old bytes", x.about(0, 3), 4);
+    }
+
+    /** Two stories from one beginning, told in the same places: neither may show in the other. */
+    private static void otherStoriesDoNotShow() {
+        SectionHouse x = new SectionHouse();
+        x.image(0);
+        story(x, Due.SECTIONS, "mbd", 1, 3);
+        x.image(1);
+        String first = all(x);
+        x.again(0);
+        story(x, Due.systemText(new int[] {1, 2, 0}, new int[] {1, 0, 2}), "zs", 0, 7);
+        x.image(2);
+        String second = all(x);
+        x.again(1);
+        DUE.is("the first story", all(x).equals(first), true);
+        seen(x, 1, 3);
+        x.again(2);
+        DUE.is("the second story", all(x).equals(second), true);
+        seen(x, 0, 7);
+        x.again(1);
+        seen(x, 1, 3);
+    }
+
+    /** Six persons, of whom those of the one story wed, and are parents, that do not in the other. */
+    private static void story(SectionHouse x, String system, String word, int sex, int day) {
+        Due.system(x, system);
+        Due.law(x, sex == 1 ? "bar z;same f b;" : "must z;same b f;");
+        Due.word(x, word, sex);
+        for (int p = 0; p < 6; p++) {
+            x.person(p + sex & 1);
+        }
+        int woman = sex;
+        int man = 1 - sex;
+        x.day(day);
+        x.parents(4, woman, man);
+        x.wed(man + 2, woman + 2);
+        x.tell(4, sex);
+        x.view(day - 1);
+    }
+
+    private static void seen(SectionHouse x, int sex, int day) {
+        int woman = sex;
+        int man = 1 - sex;
+        x.view(day - 1);
+        DUE.is("families before", x.count(8), 6);
+        x.view(day);
+        DUE.is("families by the day", x.count(8), 3);
+        DUE.is("mother", x.tells(4, 1), woman);
+        DUE.is("father", x.tells(4, 2), man);
+        DUE.is("sex", x.tells(0, 0), sex);
+        DUE.is("the telling's class", x.told(0, 1), sex);
+        DUE.is("the telling's day", x.told(0, 2), day);
+        DUE.is("the word is from", x.about(0, 1), sex);
+        DUE.is("wed already", x.wed(man + 2, woman + 2), -1);
+        DUE.is("parents already", x.parents(4, woman, man), false);
     }
 }

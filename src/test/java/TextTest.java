@@ -140,7 +140,11 @@ public final class TextTest {
         DUE.system("classes 2;weds a b;weds b a;child a a;", -1, 4, 38);
         DUE.system("classes 2;weds a b;child a a;child b b;", -1, 4, 39);
         DUE.system("classes 2;weds a b;weds b b;child a a;", -1, 4, 38);
+        DUE.system("classes 2;weds b a;child a a;child b b;", -1, 4, 39);
+        DUE.system("classes 2;weds a b;weds b a;child b b;", -1, 4, 38);
         DUE.system("classes 2;weds a b;weds b b;child a a;child b b;", -1, 5, 0);
+        DUE.system("classes 2;weds a a;weds b a;child a a;child b b;", -1, 5, 0);
+        DUE.system("classes 2;weds a b;weds b a;child a b;child b b;", -1, 5, 0);
         DUE.system(" classes 2;weds a b;weds b a;child a a;child b a;", -1, 5, 0);
     }
 
