@@ -51,7 +51,7 @@ public final class SectionHouse {
 
     public int word(int sex) {
         if (!isSex(sex) || now.wordCount >= MOST_WORDS) {
-            now.tape.note(0, NONE);
+            now.tape.take(0, NONE);
             return NO_SUCH;
         }
         int kin = texts.readKin(now.tape, sex);
@@ -398,7 +398,9 @@ public final class SectionHouse {
             return n;
         }
 
-        void note(int newFault, int newPlace) {
+        /** Every text that is asked for takes the tape, whatever is answered. */
+        void take(int newFault, int newPlace) {
+            length = 0;
             fault = newFault;
             place = newPlace;
         }
@@ -432,8 +434,7 @@ public final class SectionHouse {
         /** The tape is empty only now: until here the reader reads from it. */
         boolean close() {
             if (tape != null) {
-                tape.length = 0;
-                tape.note(fault, place);
+                tape.take(fault, place);
             }
             return fault == 0;
         }

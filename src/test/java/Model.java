@@ -247,13 +247,13 @@ final class Model {
     }
 
     int word(int sex) {
+        String text = s.tape;
+        s.tape = "";
         if (s.words.size() == 8 || sex < 0 || sex > 1) {
             s.fault = 0;
             s.place = -1;
             return -2;
         }
-        String text = s.tape;
-        s.tape = "";
         List<int[]> faults = new ArrayList<>();
         for (int i = 0; i < text.length(); i++) {
             if (LETTERS.indexOf(text.charAt(i)) < 0) {

@@ -248,21 +248,30 @@ public final class TextTest {
 
     private static void wordLimits() {
         SectionHouse x = new SectionHouse();
-        DUE.is("word(2)", Due.word(x, "hq", 2), -2);
-        DUE.is("fault(0) of word(2)", x.fault(0), 0);
-        DUE.is("fault(1) of word(2)", x.fault(1), -1);
-        // no text is read then, so the tape is as it was
-        DUE.is("the tape behind word(2)", x.end(2), 2);
-        DUE.is("word(0) of it", x.word(0), -1);
-        DUE.is("its fault", x.fault(1), 1);
-        DUE.is("word(-1)", x.word(-1), -2);
-        DUE.is("fault(0) of word(-1)", x.fault(0), 0);
+        for (int sex : new int[] {2, -1, Integer.MIN_VALUE, Integer.MAX_VALUE}) {
+            refusedWord(x, "hq", sex);
+            refusedWord(x, "", sex);
+            DUE.is("count(2) behind word(" + sex + ")", x.count(2), 0);
+        }
         for (int k = 0; k < 8; k++) {
             DUE.is("word " + k, Due.word(x, "f", k & 1), k);
         }
-        DUE.is("a ninth", Due.word(x, "h", 1), -2);
-        DUE.is("fault(0) of a ninth", x.fault(0), 0);
+        refusedWord(x, "h", 1);
+        refusedWord(x, "f", 0);
+        refusedWord(x, "f", 2);
         DUE.is("count(2)", x.count(2), 8);
+    }
+
+    /** Such a text is not read, but the tape is taken all the same, and an earlier fault is forgotten. */
+    private static void refusedWord(SectionHouse x, String text, int sex) {
+        Due.system(x, "?");
+        DUE.is("a fault ahead", x.fault(0), 1);
+        DUE.is("word(" + sex + ") of '" + text + "'", Due.word(x, text, sex), -2);
+        DUE.is("fault(0) of it", x.fault(0), 0);
+        DUE.is("fault(1) of it", x.fault(1), -1);
+        DUE.is("the tape behind it", x.end(1), -1);
+        DUE.is("a tape from there on", x.feed(0, 0, 0, 0, 0), 20);
+        x.end(0);
     }
 
     private static void faultOfTheLatest() {
