@@ -77,7 +77,8 @@ public final class CensusTest {
         Model model = new Model();
         DUE.is("systems(5) as the model", x.systems(5), model.systems(5));
         long last = -1;
-        for (int k = 0; k < x.kinds(5); k++) {
+        int kinds = x.kinds(5);
+        for (int k = 0; k < kinds; k++) {
             long row = 0;
             for (int i = 0; i < 10; i++) {
                 row = row * 10 + x.kind(5, k, i);

@@ -4,6 +4,11 @@ import java.nio.charset.StandardCharsets;
 final class Due {
     static final String SECTIONS = "classes 4;weds a b;weds b a;weds c d;weds d c;"
         + "child a c;child b d;child c a;child d b;";
+    static final String TWO = "classes 2;weds a b;weds b a;child a a;child b b;";
+    /** Numbers that are none of anything in the document, but wrap round to small ones by shifts, casts or times. */
+    static final int[] FAR = {Integer.MIN_VALUE, Integer.MIN_VALUE + 1, -(1 << 29), -65536, -65535, -256, -255, -8, -2,
+        1024, 65536, 65537, 1 << 28, 1 << 29, (1 << 29) + 1, 1 << 30, (1 << 30) + 1, Integer.MAX_VALUE - 1,
+        Integer.MAX_VALUE};
 
     private final String test;
     private int asked;
@@ -23,6 +28,11 @@ final class Due {
 
     void is(String call, boolean got, boolean want) {
         is(call, got ? 1 : 0, want ? 1 : 0);
+    }
+
+    /** Whether something was asked, and all of it was answered as due. */
+    boolean isGood() {
+        return wrong == 0 && asked > 0;
     }
 
     /** Feeds bytes twenty at a time, the last ones filled up and cut off again. */
@@ -71,6 +81,22 @@ final class Due {
         return house;
     }
 
+    /** Persons by their sexes, as '0110'. */
+    static SectionHouse people(SectionHouse house, String sexes) {
+        for (char sex : sexes.toCharArray()) {
+            house.person(sex - '0');
+        }
+        return house;
+    }
+
+    static String times(String text, int n) {
+        StringBuilder all = new StringBuilder();
+        for (int i = 0; i < n; i++) {
+            all.append(text);
+        }
+        return all.toString();
+    }
+
     static int law(SectionHouse house, String text) {
         tape(house, text);
         return house.law();
@@ -110,7 +136,7 @@ final class Due {
 
     void finish() {
         System.out.println(test + ": " + asked + " answers, " + wrong + " not as due");
-        if (wrong != 0 || asked == 0) {
+        if (!isGood()) {
             System.exit(1);
         }
     }

@@ -146,7 +146,7 @@ public final class KinTest {
                 SectionHouse x = Due.house(wives, children);
                 int k = Due.word(x, word, sex);
                 if (k == 0 && x.about(0, 4) > 0) {
-                    String first = firstAlike(x, sex);
+                    String first = firstAlike(wives, children, word, sex);
                     DUE.is("shortest of " + word + " as found by trying", x.about(0, 4), first.length());
                     for (int i = 0; i < first.length(); i++) {
                         DUE.is("letter of " + word, x.letter(0, i), LETTERS.indexOf(first.charAt(i)));
@@ -164,10 +164,16 @@ public final class KinTest {
         return text.toString();
     }
 
-    private static String firstAlike(SectionHouse x, int sex) {
+    /** A new object now and then, as one answers 512 calls and keeps eight words. */
+    private static String firstAlike(int[] wives, int[] children, String word, int sex) {
+        SectionHouse x = null;
         for (int size = 1; size <= 3; size++) {
             for (int code = 0; code < 1 << 3 * size; code++) {
-                x.image(0);
+                if (x == null || code % 64 == 0) {
+                    x = Due.house(wives, children);
+                    Due.word(x, word, sex);
+                    x.image(0);
+                }
                 int k = Due.word(x, row(code, size), sex);
                 boolean alike = k > 0 && x.alike(0, k);
                 x.again(0);

@@ -23,14 +23,6 @@ public final class PeopleTest {
         DUE.finish();
     }
 
-    /** Persons by their sexes, as '0110'. */
-    private static SectionHouse people(SectionHouse x, String sexes) {
-        for (char sex : sexes.toCharArray()) {
-            x.person(sex - '0');
-        }
-        return x;
-    }
-
     private static void persons() {
         SectionHouse x = new SectionHouse();
         DUE.is("person(2)", x.person(2), -1);
@@ -50,7 +42,7 @@ public final class PeopleTest {
     }
 
     private static void parents() {
-        SectionHouse x = people(new SectionHouse(), "010101");
+        SectionHouse x = Due.people(new SectionHouse(), "010101");
         DUE.is("both none", x.parents(2, -1, -1), false);
         DUE.is("no such child", x.parents(6, 0, 1), false);
         DUE.is("child -1", x.parents(-1, 0, 1), false);
@@ -80,7 +72,7 @@ public final class PeopleTest {
     }
 
     private static void weddings() {
-        SectionHouse x = people(new SectionHouse(), "000001111100000");
+        SectionHouse x = Due.people(new SectionHouse(), "000001111100000");
         DUE.is("wed(5, 0)", x.wed(5, 0), 1);
         DUE.is("wed again", x.wed(5, 0), -1);
         DUE.is("wed(0, 5)", x.wed(0, 5), -1);
@@ -105,7 +97,7 @@ public final class PeopleTest {
     }
 
     private static void tellings() {
-        SectionHouse x = people(new SectionHouse(), "01");
+        SectionHouse x = Due.people(new SectionHouse(), "01");
         DUE.is("told(0, 0) of none", x.told(0, 0), -2);
         DUE.is("tell(2, 0)", x.tell(2, 0), -1);
         DUE.is("tell(-1, 0)", x.tell(-1, 0), -1);
@@ -148,7 +140,7 @@ public final class PeopleTest {
     }
 
     private static void views() {
-        SectionHouse x = people(Due.sections(), "0101");
+        SectionHouse x = Due.people(Due.sections(), "0101");
         x.day(2);
         DUE.is("view(3)", x.view(3), false);
         DUE.is("view(-2)", x.view(-2), false);
@@ -187,7 +179,7 @@ public final class PeopleTest {
     }
 
     private static void families() {
-        SectionHouse x = people(new SectionHouse(), "01010101");
+        SectionHouse x = Due.people(new SectionHouse(), "01010101");
         DUE.is("each its own", x.count(8), 8);
         DUE.is("tells(7, 3)", x.tells(7, 3), 7);
         x.wed(7, 6);
@@ -209,7 +201,7 @@ public final class PeopleTest {
 
     private static void possible() {
         // 0 mother, 1 father, 2 son, 3 his wife, 4 nobody's
-        SectionHouse x = people(Due.sections(), "01100");
+        SectionHouse x = Due.people(Due.sections(), "01100");
         x.parents(2, 0, 1);
         x.wed(2, 3);
         for (int p = 0; p < 5; p++) {
@@ -232,7 +224,7 @@ public final class PeopleTest {
     }
 
     private static void possibleBySystem() {
-        SectionHouse x = people(Due.sections(), "10");
+        SectionHouse x = Due.people(Due.sections(), "10");
         x.tell(0, 3);
         DUE.is("told 3 of four", x.tells(0, 4), 8);
         Due.system(x, Due.systemText(new int[] {1, 2, 0}, new int[] {0, 1, 2}));
@@ -245,7 +237,7 @@ public final class PeopleTest {
     }
 
     private static void quarrels() {
-        SectionHouse x = people(new SectionHouse(), "0101010");
+        SectionHouse x = Due.people(new SectionHouse(), "0101010");
         x.tell(1, 0);
         x.tell(1, 1);
         DUE.is("no system: quarrel(0)", x.quarrel(0), -1);
@@ -265,7 +257,7 @@ public final class PeopleTest {
     }
 
     private static void wrongs() {
-        SectionHouse x = people(new SectionHouse(), "010");
+        SectionHouse x = Due.people(new SectionHouse(), "010");
         DUE.is("no system: wrongs()", x.wrongs(), -1);
         DUE.is("no system: wrong(0)", x.wrong(0), -1);
         Due.system(x, Due.SECTIONS);
@@ -296,7 +288,7 @@ public final class PeopleTest {
     }
 
     private static void wrongsOfTies() {
-        SectionHouse x = people(Due.sections(), "1");
+        SectionHouse x = Due.people(Due.sections(), "1");
         x.tell(0, 3);
         x.tell(0, 2);
         // one each: the least class stands
@@ -304,7 +296,7 @@ public final class PeopleTest {
         DUE.is("the least class stands", x.wrong(0), 0);
         x.tell(0, 3);
         DUE.is("no tie", x.wrong(0), 1);
-        SectionHouse y = people(Due.sections(), "1");
+        SectionHouse y = Due.people(Due.sections(), "1");
         y.tell(0, 7);
         DUE.is("none is right", y.wrongs(), 1);
         DUE.is("a quarrel", y.quarrel(0), 0);
@@ -312,7 +304,7 @@ public final class PeopleTest {
 
     private static void wrongsByTheLeast() {
         // 0 weds 1: it is the class of 0 that counts, though the told one is of 1
-        SectionHouse x = people(Due.sections(), "01");
+        SectionHouse x = Due.people(Due.sections(), "01");
         x.wed(1, 0);
         x.tell(1, 0);
         x.tell(1, 1);
@@ -323,7 +315,7 @@ public final class PeopleTest {
 
     private static void misfits() {
         // a man weds his sister: she is of his class, and no class weds itself
-        SectionHouse x = people(Due.sections(), "01010");
+        SectionHouse x = Due.people(Due.sections(), "01010");
         x.parents(2, 0, 1);
         x.parents(3, 0, 1);
         x.tell(4, 1);
@@ -336,13 +328,13 @@ public final class PeopleTest {
         DUE.is("quarrel(1)", x.quarrel(1), 4);
         DUE.is("fits not: tells(1, 4)", x.tells(1, 4), 0);
         // fits with some classes only: C leaves class 2 alone
-        SectionHouse y = people(Due.house(new int[] {1, 2, 0}, new int[] {1, 0, 2}), "110");
+        SectionHouse y = Due.people(Due.house(new int[] {1, 2, 0}, new int[] {1, 0, 2}), "110");
         y.parents(1, -1, 0);
         y.parents(2, -1, 0);
         DUE.is("all classes fit", y.tells(0, 4), 7);
         y.wed(1, 2);
         DUE.is("brother and sister fit never", y.tells(0, 4), 0);
-        SectionHouse z = people(Due.house(new int[] {1, 2, 0}, new int[] {1, 0, 2}), "010");
+        SectionHouse z = Due.people(Due.house(new int[] {1, 2, 0}, new int[] {1, 0, 2}), "010");
         z.wed(1, 0);
         z.parents(2, -1, 1);
         z.wed(1, 2);
@@ -353,7 +345,7 @@ public final class PeopleTest {
         z.tell(1, 2);
         DUE.is("told one that fits not", z.quarrel(0), 0);
         DUE.is("that is wrong", z.wrongs(), 1);
-        SectionHouse v = people(Due.house(new int[] {1, 2, 0}, new int[] {1, 0, 2}), "010");
+        SectionHouse v = Due.people(Due.house(new int[] {1, 2, 0}, new int[] {1, 0, 2}), "010");
         // the mother of class j has children of C of her men's class: by both parents it must be one
         v.parents(2, 0, 1);
         DUE.is("a child ties its parents: mother", v.tells(0, 4), 7);
@@ -363,7 +355,7 @@ public final class PeopleTest {
     }
 
     private static void mayWed() {
-        SectionHouse x = people(new SectionHouse(), "1001");
+        SectionHouse x = Due.people(new SectionHouse(), "1001");
         DUE.is("no system: may(0, 1)", x.may(0, 1), -1);
         Due.system(x, Due.SECTIONS);
         DUE.is("nothing told", x.may(0, 1), 1);
@@ -386,7 +378,7 @@ public final class PeopleTest {
         DUE.is("without it", x.may(0, 1), 2);
         x.tell(1, 0);
         DUE.is("she is of a quarrel", x.may(0, 1), -1);
-        SectionHouse y = people(Due.house(new int[] {1, 2, 0}, new int[] {0, 1, 2}), "10");
+        SectionHouse y = Due.people(Due.house(new int[] {1, 2, 0}, new int[] {0, 1, 2}), "10");
         y.tell(0, 0);
         y.tell(1, 2);
         DUE.is("it is his W, not hers", y.may(0, 1), 0);
@@ -394,7 +386,7 @@ public final class PeopleTest {
 
     private static void mayWedInOneFamily() {
         // 0 is the mother of 1 and of 4, 1 of 5, a man; 6 is the daughter of 4
-        SectionHouse x = people(Due.sections(), "0010110");
+        SectionHouse x = Due.people(Due.sections(), "0010110");
         DUE.is("grandmother", x.parents(1, 0, -1), true);
         DUE.is("uncle", x.parents(4, 0, -1), true);
         DUE.is("cousin", x.parents(6, -1, 4), true);
@@ -405,23 +397,23 @@ public final class PeopleTest {
         DUE.is("mother's mother", x.may(5, 0), 0);
         DUE.is("possible are all", x.tells(5, 4), 15);
         // of W 0 1 2 0 and C 0 1 0 a father weds his daughter by class 0 alone
-        SectionHouse y = people(Due.house(new int[] {1, 2, 0}, new int[] {1, 0, 2}), "10");
+        SectionHouse y = Due.people(Due.house(new int[] {1, 2, 0}, new int[] {1, 0, 2}), "10");
         y.parents(1, -1, 0);
         DUE.is("by some that go together", y.may(0, 1), 1);
         y.tell(1, 0);
         DUE.is("by none", y.may(0, 1), 0);
-        SectionHouse z = people(Due.house(new int[] {1, 2, 0}, new int[] {1, 0, 2}), "10");
+        SectionHouse z = Due.people(Due.house(new int[] {1, 2, 0}, new int[] {1, 0, 2}), "10");
         z.parents(1, -1, 0);
         z.tell(1, 1);
         DUE.is("by all", z.may(0, 1), 2);
         // all classes are possible, but only those that are right go together
-        SectionHouse v = people(Due.sections(), "10");
+        SectionHouse v = Due.people(Due.sections(), "10");
         v.wed(0, 1);
         DUE.is("wed already", v.may(0, 1), 2);
     }
 
     private static void counts() {
-        SectionHouse x = people(Due.sections(), "0110");
+        SectionHouse x = Due.people(Due.sections(), "0110");
         Due.law(x, "bar z;bar m;");
         Due.word(x, "mbd", 1);
         x.wed(1, 0);

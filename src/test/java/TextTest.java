@@ -169,15 +169,7 @@ public final class TextTest {
         DUE.law("must fffffffz;", 1, 0, -1);
         DUE.law("bar wmzd;", 1, 0, -1);
         DUE.law("same wh b;", 1, 0, -1);
-        DUE.law(times("bar z;", 16), 16, 0, -1);
-    }
-
-    private static String times(String text, int n) {
-        StringBuilder all = new StringBuilder();
-        for (int i = 0; i < n; i++) {
-            all.append(text);
-        }
-        return all.toString();
+        DUE.law(Due.times("bar z;", 16), 16, 0, -1);
     }
 
     private static void lawFaults() {
@@ -207,10 +199,10 @@ public final class TextTest {
         DUE.law("same m f;", -1, 2, 7);
         DUE.law("same z zzzzzzzzz;", -1, 2, 7);
         DUE.law("bar z;bar f;same f m;", -1, 2, 10);
-        DUE.law(times("bar z;", 17), -1, 3, 96);
-        DUE.law(times("bar z;", 16) + " same f m;", -1, 3, 97);
-        DUE.law(times("bar z;", 15) + "bar f;bar z;", -1, 2, 94);
-        DUE.law(times("bar z;", 17) + "bar", -1, 1, 105);
+        DUE.law(Due.times("bar z;", 17), -1, 3, 96);
+        DUE.law(Due.times("bar z;", 16) + " same f m;", -1, 3, 97);
+        DUE.law(Due.times("bar z;", 15) + "bar f;bar z;", -1, 2, 94);
+        DUE.law(Due.times("bar z;", 17) + "bar", -1, 1, 105);
         SectionHouse x = new SectionHouse();
         Due.law(x, "bar z;bar m;");
         DUE.is("a fault", Due.law(x, "bar f;"), -1);
