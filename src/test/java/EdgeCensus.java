@@ -85,12 +85,23 @@ final class EdgeCensus {
             Due.law(x, laws[i]);
             due.is("systems(2) by " + laws[i], x.systems(2), wants[i]);
         }
-        Due.law(x, "bar z;must d;");
-        due.is("C of 0 by daughters", x.kind(2, 0, 2), 1);
-        Due.law(x, "bar z;must m;");
-        due.is("C of 0 by mothers", x.kind(2, 0, 2), 0);
-        Due.law(x, "bar z;bar d;");
-        due.is("C of 0, no daughters", x.kind(2, 0, 2), 0);
+    }
+
+    static void promise21ByALawOfOneLineWithOneOtherThing(Due due) {
+        SectionHouse x = new SectionHouse();
+        String[] laws = {"bar d;", "must d;", "must m;", "bar m;"};
+        int[] first = {0, 1, 0, 1};
+        for (int i = 0; i < laws.length; i++) {
+            Due.law(x, laws[i]);
+            due.is("systems(2) by " + laws[i], x.systems(2), 1);
+            due.is("C of 0 by " + laws[i], x.kind(2, 0, 2), first[i]);
+        }
+        Due.law(x, "same s b;");
+        due.is("systems(2), sons as brothers", x.systems(2), 1);
+        Due.law(x, "same s f;");
+        due.is("systems(2), sons as fathers", x.systems(2), 2);
+        Due.law(x, "same b f;");
+        due.is("systems(2), brothers as fathers", x.systems(2), 1);
     }
 
     // ---- promise 22: kinds

@@ -138,6 +138,35 @@ final class EdgeFound {
         }
     }
 
+    static void promise30EightClassesOfPersonsSideBySide(Due due) {
+        SectionHouse x = Due.people(Due.house(EIGHT, EIGHT), "111");
+        for (int p = 0; p < 3; p++) {
+            due.is("tells(" + p + ", 4)", x.tells(p, 4), 255);
+        }
+        x.tell(1, 3);
+        due.is("the one ahead", x.tells(0, 4), 255);
+        due.is("the one told of", x.tells(1, 4), 8);
+        due.is("the one behind", x.tells(2, 4), 255);
+    }
+
+    static void promise30EightClassesOfFamiliesThatInterleave(Due due) {
+        // 0 is the father of 3, whose wife is 2; 1 is the father of 4
+        SectionHouse x = Due.people(Due.house(EIGHT, EIGHT), "11011");
+        x.parents(3, -1, 0);
+        x.parents(4, -1, 1);
+        x.wed(3, 2);
+        for (int kind : new int[] {0, 7}) {
+            x.image(0);
+            x.tell(0, kind);
+            due.is("0 of " + kind, x.tells(0, 4), 1 << kind);
+            due.is("1", x.tells(1, 4), 255);
+            due.is("2", x.tells(2, 4), 1 << (kind + 2) % 8);
+            due.is("3", x.tells(3, 4), 1 << (kind + 1) % 8);
+            due.is("4", x.tells(4, 4), 255);
+            x.again(0);
+        }
+    }
+
     static void promise30NoClassByAQuarrel(Due due) {
         SectionHouse x = Due.people(Due.sections(), "010");
         x.wed(1, 0);

@@ -137,6 +137,9 @@ final class EdgeSystemText {
         due.system("classes 2;weds weds a b;?", -1, 1, 15);
         due.system("classes 2;weds a weds a b;?", -1, 1, 17);
         due.system("classes 2;weds a b weds a b;?", -1, 1, 19);
+        due.system("classes ;weds a b;?", -1, 1, 8);
+        due.system("classes 2;weds ;?", -1, 1, 15);
+        due.system("classes 2;weds a ;?", -1, 1, 17);
     }
 
     static void promise04AnEmptyTape(Due due) {
