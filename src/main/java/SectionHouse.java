@@ -1232,7 +1232,7 @@ public final class SectionHouse {
 
         /** Nearest first, and letters in their order: so the first way to a state is the shortest and least. */
         private void search(int sex) {
-            if (searched[sex]) {
+            if (!isSex(sex) || searched[sex]) {
                 return;
             }
             searched[sex] = true;
@@ -1255,11 +1255,12 @@ public final class SectionHouse {
 
         /** Kin words have eight letters at most, and the shortest no more. */
         private int wordTo(int sex, int state) {
+            int[] ahead = before[sex & 1];
             int letters = 0;
             int length = 0;
             int at = state;
             for (int i = 0; i < Kin.MOST; i++) {
-                int way = entry(before[sex], at);
+                int way = entry(ahead, at);
                 if (way < 0) {
                     break;
                 }
